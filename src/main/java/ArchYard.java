@@ -954,8 +954,7 @@ public final class ArchYard {
         void gather(Arch arch, boolean withSlopes) {
             begin();
             for (int k = 0; k <= arch.size; k++) {
-                boolean filled = arch.isAtFilled(k);
-                addMoments(arch, k, filled ? 3 : 1, filled ? 1 : 0);
+                addMoments(arch, k);
                 if (withSlopes) {
                     addSlopes(arch, k);
                 }
@@ -970,7 +969,7 @@ public final class ArchYard {
             begin();
             for (int k = 0; k <= arch.size; k++) {
                 boolean filled = arch.isAtFilled(k);
-                addMoments(arch, k, (filled ? 192 : 128) - step, (filled ? 64 : 0) + step);
+                addMomentsAt(arch, k, (filled ? 192 : 128) - step, (filled ? 64 : 0) + step);
                 passStone(arch, k);
                 passLoads(arch, k);
             }
@@ -980,8 +979,7 @@ public final class ArchYard {
         void gatherRow(Arch arch, int first, int last) {
             begin();
             for (int k = first; k <= last + 1; k++) {
-                boolean filled = arch.isAtFilled(k);
-                addMoments(arch, k, filled ? 3 : 1, filled ? 1 : 0);
+                addMoments(arch, k);
                 addSlopes(arch, k);
                 passStone(arch, k);
             }
@@ -1014,8 +1012,16 @@ public final class ArchYard {
             turnAhead += grains * spot;
         }
 
+        private void addMoments(Arch arch, int k) {
+            if (arch.isAtFilled(k)) {
+                addMomentsAt(arch, k, 3, 1);
+            } else {
+                addMomentsAt(arch, k, 1, 0);
+            }
+        }
+
         /** Each point is a mean of A and B, near parts of its own end and far parts of the other. */
-        private void addMoments(Arch arch, int k, long near, long far) {
+        private void addMomentsAt(Arch arch, int k, long near, long far) {
             long parts = near + far;
             long x = near * arch.span(k, 0) + far * arch.span(k, 2);
             long y = near * arch.span(k, 1) + far * arch.span(k, 3);
