@@ -511,6 +511,17 @@ public final class PromiseTest {
         due("far behind", yard.bound(0, Integer.MAX_VALUE), -1);
         yard.judge(0, 1);
         due("LEAST without slopes", boundsOf(yard, 0), "0 1 4 5 8");
+        greatestLift();
+    }
+
+    /** A block upon the left pier and against the right one: the push is at most the lift, and that a billion. */
+    private static void greatestLift() {
+        ArchYard yard = block(0, 0);
+        yard.pier(0, 0, 10, 0, 0, 0);
+        yard.slope(0, 1, 1);
+        due("it stands", yard.judge(0, 0), 1);
+        due("GREATEST by the frame", number(yard, 3) + " " + number(yard, 4) + " " + number(yard, 5), "1000000000 1000000000 0");
+        due("the frame is touched", boundsOf(yard, 1), "1 3 9 11");
     }
 
     private static void promise20Weigh() {
