@@ -1,103 +1,5 @@
 /** Each promise by itself: ordinary inputs, the document's edges and wrong inputs, worked out by hand. */
-public final class PromiseTest {
-    private interface Call {
-        void run();
-    }
-
-    private static final int[] SQUARE = {0, 0, 10, 0, 10, 10, 0, 10};
-    private static final int BILLION = 1000000000;
-    private static int wrong = 0;
-
-    private static void due(String what, Object got, Object want) {
-        if (!got.equals(want)) {
-            wrong++;
-            System.out.println(what + " answered " + got + ", due is " + want);
-        }
-    }
-
-    private static String thrown(Call call) {
-        try {
-            call.run();
-            return "nothing";
-        } catch (RuntimeException e) {
-            return e.getClass().getSimpleName();
-        }
-    }
-
-    private static void index(String what, Call call) {
-        due(what, thrown(call), "IndexOutOfBoundsException");
-    }
-
-    private static void argument(String what, Call call) {
-        due(what, thrown(call), "IllegalArgumentException");
-    }
-
-    private static void state(String what, Call call) {
-        due(what, thrown(call), "IllegalStateException");
-    }
-
-    private static ArchYard yard() {
-        ArchYard yard = new ArchYard();
-        yard.rack(0);
-        yard.rack(1);
-        return yard;
-    }
-
-    private static int stone(ArchYard yard, int kind, int part, int... corners) {
-        yard.row(1, 0, corners.length);
-        for (int i = 0; i < corners.length; i++) yard.put(1, 0, i, corners[i]);
-        return yard.stone(kind, 1, 0, part);
-    }
-
-    private static String page(ArchYard yard) {
-        StringBuilder text = new StringBuilder();
-        for (int k = 0; k < yard.count(3); k++) text.append((char) yard.octet(k));
-        return text.toString();
-    }
-
-    private static String number(ArchYard yard, int what) {
-        int length = yard.number(what);
-        due("the length of number " + what, length, yard.count(3));
-        return page(yard);
-    }
-
-    private static String weight(ArchYard yard, int k) {
-        int length = yard.weigh(k);
-        due("the length of weight " + k, length, yard.count(3));
-        return page(yard);
-    }
-
-    private static String boundsOf(ArchYard yard, int which) {
-        StringBuilder text = new StringBuilder();
-        for (int k = 0; yard.bound(which, k) != ArchYard.NONE; k++) text.append(yard.bound(which, k)).append(' ');
-        return text.toString().trim();
-    }
-
-    /** One stone of the kind, 10 by 10, between upright piers: arch 0. */
-    private static ArchYard block(int kind, int part) {
-        ArchYard yard = yard();
-        stone(yard, kind, part, SQUARE);
-        yard.arch(1);
-        yard.place(0, 0, 0);
-        yard.pier(0, 0, 0, 0, 0, 10);
-        yard.pier(0, 1, 10, 10, 10, 0);
-        return yard;
-    }
-
-    /** Stones of the kinds side by side, each 10 by 10: arch 0. */
-    private static ArchYard beam(int... kinds) {
-        ArchYard yard = yard();
-        int n = kinds.length;
-        yard.arch(n);
-        for (int p = 0; p < n; p++) {
-            int x = 10 * p;
-            yard.place(0, p, stone(yard, kinds[p], 0, x, 0, x + 10, 0, x + 10, 10, x, 10));
-        }
-        yard.pier(0, 0, 0, 0, 0, 10);
-        yard.pier(0, 1, 10 * n, 10, 10 * n, 0);
-        return yard;
-    }
-
+public final class PromiseTest extends Bench {
     private static void promise1New() {
         ArchYard yard = new ArchYard();
         for (int what = 0; what <= 3; what++) due("count of a new yard", yard.count(what), 0);
@@ -369,10 +271,6 @@ public final class PromiseTest {
         due("more than a point", bare.whole(0), -1);
     }
 
-    private static String span(ArchYard yard, int k) {
-        return yard.joint(0, k, 0) + " " + yard.joint(0, k, 1) + " " + yard.joint(0, k, 2) + " " + yard.joint(0, k, 3);
-    }
-
     private static void promise15Joint() {
         ArchYard yard = yard();
         yard.arch(2);
@@ -552,19 +450,6 @@ public final class PromiseTest {
         due("nor a first", wedge.weigh(0), -1);
     }
 
-    /** Two stones that hang in a V: with plumb joints at 0, 10 and 20, 10 up, 0 up and 10 up, each 2 high. */
-    private static ArchYard hanging() {
-        ArchYard yard = yard();
-        stone(yard, 0, 0, 0, 10, 10, 0, 10, 2, 0, 12);
-        stone(yard, 0, 0, 10, 0, 20, 10, 20, 12, 10, 2);
-        yard.arch(2);
-        yard.place(0, 0, 0);
-        yard.place(0, 1, 1);
-        yard.pier(0, 0, 0, 10, 0, 12);
-        yard.pier(0, 1, 20, 12, 20, 10);
-        return yard;
-    }
-
     /**
      * Of the V the bounds are -100 h - m; 120 h + m; 20 h - 100 v + m + 5000; -100 h + 200 v - m - 20000,
      * which go away when taken 9, 8, 2 and 1 times.
@@ -579,47 +464,18 @@ public final class PromiseTest {
         state("no number", () -> yard.number(0));
     }
 
-    /** Three stones 10 wide and 2 high, of 0, 10, 10 and 0 up, with a load upon the middle of the first. */
-    private static ArchYard bridge(int kind, int load) {
-        ArchYard yard = yard();
-        stone(yard, kind, 0, 0, 0, 10, 10, 10, 12, 0, 2);
-        stone(yard, kind, 0, 10, 10, 20, 10, 20, 12, 10, 12);
-        stone(yard, kind, 0, 20, 10, 30, 0, 30, 2, 20, 12);
-        yard.arch(3);
-        for (int p = 0; p < 3; p++) yard.place(0, p, p);
-        yard.pier(0, 0, 0, 0, 0, 2);
-        yard.pier(0, 1, 30, 2, 30, 0);
-        if (load > 0) yard.load(0, 0, 50, load);
-        return yard;
-    }
-
     private static void promise21Room() {
         due("a block", block(0, 0).room(0), 64);
         due("a filled block", block(3, 0).room(0), 64);
         due("a V", hanging().room(0), -1);
-        due("a bridge with its load even", bridge(0, 0).room(0), 64);
+        due("a bridge with its load even", bridge(0, 0, 0, 0).room(0), 64);
         // With the weights' bends as r to 1, joints of half height t must give t (4 r + 4) >= 10 (r - 1).
-        due("a bridge with r = 2: t from 5/6 on", bridge(0, 200).room(0), 10);
-        due("a filled bridge with r = 1.2: t from 5/22 on, of a half", bridge(3, 26).room(0), 34);
+        due("a bridge with r = 2: t from 5/6 on", bridge(200, 0, 0, 0).room(0), 10);
+        due("a filled bridge with r = 1.2: t from 5/22 on, of a half", bridge(26, 3, 3, 3).room(0), 34);
         ArchYard yard = block(0, 0);
         index("arch 1", () -> yard.room(1));
         yard.place(0, 0, -1);
         state("not whole", () -> yard.room(0));
-    }
-
-    /** Stones 20 wide between joints 10 high that lean over to the right by so much: a flat arch. */
-    private static ArchYard leaning(int... over) {
-        ArchYard yard = yard();
-        int n = over.length - 1;
-        yard.arch(n);
-        for (int p = 0; p < n; p++) {
-            int x = 20 * p;
-            yard.place(0, p, stone(yard, 0, 0, x, 0, x + 20, 0, x + 20 + over[p + 1], 10, x + over[p], 10));
-        }
-        yard.pier(0, 0, 0, 0, over[0], 10);
-        yard.pier(0, 1, 20 * n + over[n], 10, 20 * n, 0);
-        yard.slope(0, 1, 20);
-        return yard;
     }
 
     private static void promise22Strike() {
@@ -647,12 +503,6 @@ public final class PromiseTest {
         due("the last two", sliding.strike(0, 1, 2), false);
         sliding.load(0, 1, 250, 100000);
         due("loads are left aside", sliding.strike(0, 0, 1), true);
-    }
-
-    private static String ordered(ArchYard yard) {
-        StringBuilder text = new StringBuilder();
-        for (int k = 0; yard.order(0, k) != ArchYard.NONE; k++) text.append(yard.order(0, k)).append(' ');
-        return text.toString().trim();
     }
 
     private static void promise23Order() {
@@ -718,6 +568,6 @@ public final class PromiseTest {
         promise22Strike();
         promise23Order();
         promises24And25Octet();
-        System.exit(wrong == 0 ? 0 : 1);
+        finish();
     }
 }
