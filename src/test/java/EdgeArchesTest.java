@@ -222,6 +222,27 @@ public final class EdgeArchesTest extends Bench {
         due("500 in the middle now", yard.line(0, 1, 0, 500, 0), NONE);
     }
 
+    /** What stays keeps its spot and its grains: 500 at 5, 500 and 100 at 15, of which 525 go to the left pier. */
+    private static void loadsThatStayAreTheSame() {
+        ArchYard yard = beam(0, 0);
+        yard.load(0, 0, 0, 700);
+        yard.load(0, 1, 150, 100);
+        yard.load(0, 0, 30, 900);
+        yard.place(0, 0, NONE);
+        yard.place(0, 0, 0);
+        due("without the others, by the lowest line", yard.line(0, 1, 1000, 525, 0), NONE);
+        due("and no less", yard.line(0, 1, 1000, 524, 0), 8);
+        due("one stayed", yard.load(0, 1, 150, 1), 2);
+        ArchYard first = beam(0, 0);
+        first.load(0, 1, 150, 100);
+        first.load(0, 0, 0, 700);
+        first.place(0, 0, WEDGE);
+        first.place(0, 0, 0);
+        due("the first one told stays", first.line(0, 1, 1000, 525, 0), NONE);
+        due("and the last one goes", first.line(0, 1, 1000, 524, 0), 8);
+        due("one stayed here too", first.load(0, 1, 150, 1), 2);
+    }
+
     private static void loadsOfOtherArchesStay() {
         ArchYard yard = block(0, 0);
         yard.arch(1);
@@ -565,6 +586,29 @@ public final class EdgeArchesTest extends Bench {
         due("a level right one goes the stone's way", span(yard, 1), "6 10 0 10");
     }
 
+    /** A stone whose upper face goes from 12, 18 down to 0, 0; the other's lower face lies on its line. */
+    private static void whatIsInCommonOfSlopes() {
+        ArchYard yard = yard();
+        yard.arch(2);
+        yard.place(0, 0, stone(yard, 0, 0, 0, 0, 20, 0, 12, 18));
+        yard.place(0, 1, stone(yard, 0, 0, 4, 6, 8, 12, 0, 20));
+        due("a shorter one", span(yard, 1), "8 12 4 6");
+        yard.place(0, 1, stone(yard, 0, 0, -4, -6, 16, 24, -20, 20));
+        due("a longer one", span(yard, 1), "12 18 0 0");
+        yard.place(0, 1, stone(yard, 0, 0, -4, -6, 2, 3, -20, 20));
+        due("one that begins before", span(yard, 1), "2 3 0 0");
+        yard.place(0, 1, stone(yard, 0, 0, 10, 15, 16, 24, -20, 40));
+        due("one that ends behind", span(yard, 1), "12 18 10 15");
+        yard.place(0, 1, stone(yard, 0, 0, 12, 18, 16, 24, -20, 40));
+        due("one that begins where it ends", yard.joint(0, 1, 0), -1000);
+        yard.place(0, 1, stone(yard, 0, 0, 4, 7, 8, 13, 0, 20));
+        due("one that lies above", yard.joint(0, 1, 0), -1000);
+        yard.place(0, 1, stone(yard, 0, 0, 4, 6, 8, 11, 0, 20));
+        due("one that begins on its line", yard.joint(0, 1, 0), -1000);
+        yard.place(0, 1, stone(yard, 0, 0, 4, 5, 8, 12, 0, 20));
+        due("one that ends on its line", yard.joint(0, 1, 0), -1000);
+    }
+
     private static void firstFaceOfTheLeftOne() {
         ArchYard yard = yard();
         yard.arch(2);
@@ -631,7 +675,8 @@ public final class EdgeArchesTest extends Bench {
         sentence("LOADS upon it go", EdgeArchesTest::loadsGo);
         sentence("unless it is a STONE", EdgeArchesTest::loadsStayUponStones);
         sentence("unless it is a STONE, also one that does not reach", EdgeArchesTest::loadsStayBesideStones);
-        sentence("LOADS upon it, and no others", EdgeArchesTest::loadsOfOtherArchesStay);
+        sentence("LOADS upon it, and no others", EdgeArchesTest::loadsThatStayAreTheSame);
+        sentence("LOADS of its ARCH, and no others", EdgeArchesTest::loadsOfOtherArchesStay);
         sentence("place: a refused one lets LOADS stay", EdgeArchesTest::refusedPlaceKeepsLoads);
     }
 
@@ -663,6 +708,7 @@ public final class EdgeArchesTest extends Bench {
         sentence("go opposite ways", EdgeArchesTest::facesThatGoOneWay);
         sentence("have more than a point in common", EdgeArchesTest::moreThanAPoint);
         sentence("the JOINT goes, as the left one's FACE does, from A to B", EdgeArchesTest::whatIsInCommon);
+        sentence("what they have in common on a slope", EdgeArchesTest::whatIsInCommonOfSlopes);
         sentence("the first such FACE of the left one", EdgeArchesTest::firstFaceOfTheLeftOne);
         sentence("with the first such of the right one", EdgeArchesTest::firstFaceOfTheRightOne);
         sentence("the left one's first goes before the right one's", EdgeArchesTest::theLeftOneGoesFirst);

@@ -417,6 +417,27 @@ public final class EdgeLinesTest extends Bench {
         due("LEAST again", least(yard), "500 250 -50000");
     }
 
+    /** Nothing of a long arch is left when a short one is asked about. */
+    private static void shortAfterLong() {
+        ArchYard yard = beam(0, 0, 0, 0, 0, 0, 0, 0, 0, 0);
+        yard.arch(1);
+        yard.place(1, 0, 0);
+        yard.pier(1, 0, 0, 0, 0, 10);
+        yard.pier(1, 1, 10, 10, 10, 0);
+        due("ten stones", yard.judge(0, 0), 1);
+        due("one stone", yard.judge(1, 0), 1);
+        due("its LEAST", least(yard) + " touches " + boundsOf(yard, 0), "500 250 -50000 touches 1 2 5 7");
+        yard.slope(0, 0, 1);
+        yard.slope(1, 0, 1);
+        due("ten stones slide", yard.judge(0, 0), 0);
+        due("one stone slides", yard.judge(1, 0), 0);
+        due("its NEVER", never(yard), "2 7 by 1 1: -5000");
+        due("a line of ten", yard.line(0, 1, 1000, 250, 0), 8);
+        due("a line of one", yard.line(1, 1, 1000, 250, 0), NONE);
+        due("judged without slopes", yard.judge(0, 1) + " " + yard.judge(1, 1), "1 1");
+        due("LEAST of one without slopes", least(yard) + " touches " + boundsOf(yard, 0), "0 250 0 touches 0 1 4 5 8");
+    }
+
     private static void asItWas() {
         ArchYard yard = block(0, 0);
         yard.judge(0, 0);
@@ -532,6 +553,52 @@ public final class EdgeLinesTest extends Bench {
         due("one of them alone can be kept", beam(2, 2).judge(0, 0), 1);
     }
 
+    /** A block that both piers hold at one face: at 0, 0 they must bear -m and m - 25000, or the like. */
+    private static void neverOfTwoMoments() {
+        ArchYard left = block(0, 0);
+        left.pier(0, 1, 0, 0, 0, 10);
+        left.judge(0, 1);
+        due("the first bound and another", never(left), "0 5 by 1 1: -25000");
+        // About 10, 0: -100 v + m and 100 v - m - 25000.
+        ArchYard right = block(0, 0);
+        right.pier(0, 0, 10, 10, 10, 0);
+        right.judge(0, 1);
+        due("two bounds side by side", never(right), "1 4 by 1 1: -25000");
+        // Joints from 0 to 4 up and from 10 down to 6: -m; -m - 100 h + 25000; m + 60 h - 25000.
+        ArchYard apart = block(0, 0);
+        apart.pier(0, 0, 0, 0, 0, 4);
+        apart.pier(0, 1, 0, 6, 0, 10);
+        apart.judge(0, 1);
+        due("three, where the lift does nothing", never(apart), "0 4 5 by 2 3 5: -50000");
+    }
+
+    /** With 0 over 4 joints 6 and 10 long give -24 v and 40 v - 20000, which are not made smaller themselves. */
+    private static void leastWholeNumbers() {
+        ArchYard yard = block(0, 0);
+        yard.pier(0, 0, 0, 2, 0, 8);
+        yard.slope(0, 0, 4);
+        yard.judge(0, 0);
+        due("24 goes into 120 as 40 does", never(yard), "2 7 by 5 3: -60000");
+    }
+
+    private static void neverAfterNever() {
+        ArchYard yard = block(0, 0);
+        yard.slope(0, 0, 1);
+        yard.judge(0, 0);
+        due("of two", never(yard), "2 7 by 1 1: -5000");
+        yard.slope(0, 0, 2);
+        yard.judge(0, 0);
+        due("of two again", never(yard), "2 7 by 1 1: -10000");
+        ArchYard longer = hanging();
+        longer.judge(0, 1);
+        due("of four", never(longer), "0 1 5 8 by 9 8 2 1: -10000");
+        longer.slope(0, 0, 1);
+        longer.judge(0, 0);
+        due("of two after it", never(longer), "2 7 by 1 1: -200");
+        longer.judge(0, 1);
+        due("of four once more", never(longer), "0 1 5 8 by 9 8 2 1: -10000");
+    }
+
     /** Downward joints: -10 h - 20 v; -10 h + 20 v - 10000; and h, which asks for a push. */
     private static void neverOfThree() {
         ArchYard yard = leftward(1);
@@ -620,6 +687,7 @@ public final class EdgeLinesTest extends Bench {
         sentence("3: 1,000,000,000 - v", EdgeLinesTest::liftNotBeyondABillion);
         sentence("2: v + 1,000,000,000", EdgeLinesTest::liftNotBelowABillion);
         sentence("judge: of the ARCH and how judged last", EdgeLinesTest::judgedLast);
+        sentence("judge: of the ARCH judged last, and of no other", EdgeLinesTest::shortAfterLong);
         sentence("judge: as it was", EdgeLinesTest::asItWas);
         sentence("judge: a refused one judges nothing", EdgeLinesTest::refusedJudge);
         sentence("number: none was judged, or it has no SAFE line", EdgeLinesTest::numberWithoutALine);
@@ -628,6 +696,9 @@ public final class EdgeLinesTest extends Bench {
         sentence("number: in lowest terms", EdgeLinesTest::lowestTerms);
         sentence("bound: NONE without one, and where there is no such line", EdgeLinesTest::boundsWithoutOne);
         sentence("NEVER: the smallest number of BOUNDS, the first one", EdgeLinesTest::neverOfTwo);
+        sentence("NEVER: two, where a moment is kept by none", EdgeLinesTest::neverOfTwoMoments);
+        sentence("NEVER: the least whole number above 0", EdgeLinesTest::leastWholeNumbers);
+        sentence("NEVER of what was judged last alone", EdgeLinesTest::neverAfterNever);
         sentence("NEVER: three", EdgeLinesTest::neverOfThree);
         sentence("NEVER: or four", EdgeLinesTest::neverOfFour);
         sentence("weigh: NONE, and the PAGE stays, without one", EdgeLinesTest::weighWithoutOne);

@@ -74,6 +74,33 @@ public final class EdgeRoomTest extends Bench {
         due("safe at 64 alone", hung.room(0), NONE);
     }
 
+    /**
+     * A bridge of the widest kind, 64 wide each, 40 high and 140 up, so that 80 t (r + 1) >= 140 (r - 1), where r is
+     * 1 + load / 25600; of filled stones, whose joints are halved, 1 + load / 16640.
+     */
+    private static ArchYard wideBridge(int kind, int load) {
+        ArchYard yard = yard();
+        stone(yard, kind, 0, -96, -100, -32, 40, -32, 80, -96, -60);
+        stone(yard, kind, 0, -32, 40, 32, 40, 32, 80, -32, 80);
+        stone(yard, kind, 0, 32, 40, 96, -100, 96, -60, 32, 80);
+        yard.arch(3);
+        for (int p = 0; p < 3; p++) yard.place(0, p, p);
+        yard.pier(0, 0, -96, -100, -96, -60);
+        yard.pier(0, 1, 96, -60, 96, -100);
+        yard.load(0, 0, -640, load);
+        return yard;
+    }
+
+    private static void roomOfGreatNumbers() {
+        due("t from 0.6466 on", wideBridge(0, 30000).room(0), 22);
+        due("r = 11/3 but for a grain: t from 1 on", wideBridge(0, 68266).room(0), 0);
+        due("a grain more", wideBridge(0, 68267).room(0), NONE);
+        due("filled: t from 0.4572 on", wideBridge(3, 5000).room(0), 34);
+        due("filled, nearly even: t from 0.0001 on", wideBridge(3, 1).room(0), 63);
+        due("filled, r = 9/5: t from 1 on", wideBridge(3, 13312).room(0), 0);
+        due("filled, a grain more", wideBridge(3, 13313).room(0), NONE);
+    }
+
     private static void roomWithoutSlopes() {
         ArchYard yard = block(0, 0);
         yard.slope(0, 0, 1);
@@ -211,6 +238,7 @@ public final class EdgeRoomTest extends Bench {
         sentence("ROOM: NONE if there is none for 0", EdgeRoomTest::noneForZero);
         sentence("ROOM: at a FILLED: of what its middle half is", EdgeRoomTest::roomAtFilled);
         sentence("ROOM: for which, and for each smaller one", EdgeRoomTest::eachSmallerOne);
+        sentence("ROOM of numbers beyond 64 bits", EdgeRoomTest::roomOfGreatNumbers);
         sentence("ROOM, without slopes", EdgeRoomTest::roomWithoutSlopes);
         sentence("strike: no such PLACE", EdgeRoomTest::strikeNoSuchPlace);
         sentence("strike: j is below i", EdgeRoomTest::strikeLastBelowFirst);

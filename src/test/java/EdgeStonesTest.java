@@ -75,67 +75,104 @@ public final class EdgeStonesTest extends Bench {
         due("the same of 32 bits", yard.stone(0, 1, 0, 0), -3);
     }
 
+    /**
+     * A shape is sound, or not, from whichever corner it is told, however it is turned by a quarter and
+     * wherever it stands; told with the clock it never is.
+     */
+    private static void shape(String what, boolean sound, int... corners) {
+        int n = corners.length / 2;
+        for (int quarter = 0; quarter < 4; quarter++) {
+            for (int[] shift : new int[][] {{0, 0}, {37, -41}, {-58, 29}}) {
+                int[] moved = new int[2 * n];
+                for (int i = 0; i < n; i++) {
+                    int[] point = {corners[2 * i], corners[2 * i + 1]};
+                    for (int turn = 0; turn < quarter; turn++) point = new int[] {-point[1], point[0]};
+                    moved[2 * i] = point[0] + shift[0];
+                    moved[2 * i + 1] = point[1] + shift[1];
+                }
+                fromEachCorner(what + ", turned by " + quarter + ", moved by " + shift[0], sound, moved);
+            }
+        }
+    }
+
+    private static void fromEachCorner(String what, boolean sound, int[] corners) {
+        int n = corners.length / 2;
+        for (int first = 0; first < n; first++) {
+            ArchYard yard = yard();
+            int[] round = new int[2 * n];
+            int[] back = new int[2 * n];
+            for (int i = 0; i < 2 * n; i++) {
+                round[i] = corners[(2 * first + i) % (2 * n)];
+                back[2 * (n - 1 - i / 2) + i % 2] = round[i];
+            }
+            due(what + ", from " + first, stone(yard, 0, 0, round), sound ? 0 : -4);
+            due(what + ", from " + first + " with the clock", stone(yard, 0, 0, back), -4);
+        }
+    }
+
     private static void facesCross() {
-        ArchYard yard = yard();
-        due("a bow tie", stone(yard, 0, 0, 0, 0, 10, 10, 10, 0, 0, 10), -4);
-        due("a star", stone(yard, 0, 0, 0, 10, -6, -8, 9, 3, -9, 3, 6, -8), -4);
-        due("first and third face of five", stone(yard, 0, 0, 0, 0, 20, 0, 20, 10, 10, -5, 0, 10), -4);
-        due("the last face and another", stone(yard, 0, 0, 0, 0, 10, 0, 10, 10, 5, 10, 5, -5), -4);
+        shape("a bow tie", false, 0, 0, 10, 10, 10, 0, 0, 10);
+        shape("a star", false, 0, 10, -6, -8, 9, 3, -9, 3, 6, -8);
+        shape("a spike through a face", false, 0, 0, 20, 0, 20, 10, 10, -5, 0, 10);
+        shape("a spike short of it", true, 0, 0, 20, 0, 20, 10, 10, 5, 0, 10);
+        shape("a twisted end", false, 0, 0, 10, 0, 10, 10, 5, 10, 5, -5);
+        shape("faces that cross at no whole point", false, 0, 0, 10, 1, 10, 9, 3, 0, 0, 8);
     }
 
     private static void facesTouch() {
-        ArchYard yard = yard();
-        due("a corner upon a face", stone(yard, 0, 0, 0, 0, 10, 0, 10, 10, 5, 0, 0, 10), -4);
-        due("one short of it", stone(yard, 0, 0, 0, 0, 10, 0, 10, 10, 5, 1, 0, 10), 0);
-        due("the first corner upon a face", stone(yard, 0, 0, 5, 0, 0, 10, 0, 0, 10, 0, 10, 10), -4);
-        due("two corners at one point", stone(yard, 0, 0, 0, 0, 5, 5, 10, 0, 10, 10, 5, 5, 0, 10), -4);
-        due("one beside each other", stone(yard, 0, 0, 0, 0, 5, 4, 10, 0, 10, 10, 5, 5, 0, 10), 1);
-        due("the first and the third corner at one point", stone(yard, 0, 0, 0, 0, 10, 0, 0, 0, 0, 10), -4);
+        shape("a corner upon a face from within", false, 0, 0, 10, 0, 10, 10, 5, 0, 0, 10);
+        shape("one short of it", true, 0, 0, 10, 0, 10, 10, 5, 1, 0, 10);
+        shape("a corner upon a face from without", false, 0, 0, 20, 0, 20, 20, 4, 20, 5, 10, 10, 18, 10, 10, 0, 10);
+        shape("one short of it too", true, 0, 0, 20, 0, 20, 20, 4, 20, 5, 11, 10, 18, 10, 10, 0, 10);
+        shape("two corners at one point", false, 0, 0, 5, 5, 10, 0, 10, 10, 5, 5, 0, 10);
+        shape("one beside each other", true, 0, 0, 5, 4, 10, 0, 10, 10, 5, 5, 0, 10);
+        shape("a way there and back", false, 0, 0, 10, 0, 0, 0, 0, 10);
+        shape("a corner upon a sloping face", false, 0, 0, 12, 8, 10, 20, 6, 4, 0, 20);
+        shape("a corner beside a sloping face", true, 0, 0, 12, 8, 10, 20, 6, 5, 0, 20);
+    }
+
+    /** Of the face from -100, -100 to 100, 99 the point -99, -99 is as little to the left as can be. */
+    private static void facesThatNearlyTouch() {
+        fromEachCorner("a sliver", true, new int[] {-100, -100, 100, 99, 100, 100, -99, -99, -100, 100});
+        fromEachCorner("a closed one", false, new int[] {-100, -100, 100, 100, 99, 100, -99, -99, -100, 100});
     }
 
     private static void facesUponEachOther() {
-        ArchYard yard = yard();
-        due("two on one line, over each other", stone(yard, 0, 0, 0, 0, 10, 0, 10, 5, 5, 5, 5, 0, 2, 0, 2, 5, 0, 5), -4);
-        due("two on one line, end to end", stone(yard, 0, 0, 0, 0, 5, 0, 5, 5, 4, 5, 5, 0, 9, 0, 9, 9, 0, 9), -4);
-        due("two on one line, apart", stone(yard, 0, 0, 0, 0, 4, 0, 4, 5, 6, 5, 6, 0, 10, 0, 10, 9, 0, 9), 0);
+        shape("two on one line, over each other", false, 0, 0, 10, 0, 10, 5, 5, 5, 5, 0, 2, 0, 2, 5, 0, 5);
+        shape("two on one line, end to end", false, 0, 0, 5, 0, 5, 5, 4, 5, 5, 0, 9, 0, 9, 9, 0, 9);
+        shape("two on one line, apart", true, 0, 0, 4, 0, 4, 5, 6, 5, 6, 0, 10, 0, 10, 9, 0, 9);
+        shape("two on one sloping line, apart", true, 0, 0, 4, 4, 2, 8, 4, 10, 6, 6, 10, 10, 0, 20);
     }
 
     private static void neighboursShareMore() {
-        ArchYard yard = yard();
-        due("a face halfway back", stone(yard, 0, 0, 0, 0, 20, 0, 10, 0, 10, 10), -4);
-        due("a face all the way back", stone(yard, 0, 0, 0, 0, 10, 0, 10, 10, 10, 20, 10, 10, 0, 10), -4);
-        due("a face farther back", stone(yard, 0, 0, 0, 0, 10, 0, -5, 0, 0, 10), -4);
-        due("the last face back on the first", stone(yard, 0, 0, 0, 0, 10, 0, 10, 10, 5, 10, 5, 0), -4);
-        due("the last face back upon the one before", stone(yard, 0, 0, 0, 0, 10, 0, 10, 10, 0, 10, 0, -5), -4);
-        due("sloping back", stone(yard, 0, 0, 0, 0, 6, 3, 2, 1, 0, 10), -4);
+        shape("a face halfway back", false, 0, 0, 20, 0, 10, 0, 10, 10);
+        shape("a face all the way back", false, 0, 0, 10, 0, 10, 10, 10, 20, 10, 10, 0, 10);
+        shape("a face farther back", false, 0, 0, 10, 0, -5, 0, 0, 10);
+        shape("sloping back", false, 0, 0, 6, 3, 2, 1, 0, 10);
+        shape("a triangle on one line", false, 0, 0, 10, 0, 5, 0);
     }
 
     private static void neighboursShareTheirCorner() {
-        ArchYard yard = yard();
-        due("a triangle", stone(yard, 0, 0, TRIANGLE), 0);
-        due("a straight corner", stone(yard, 0, 0, 0, 0, 5, 0, 10, 0, 10, 10, 0, 10), 1);
-        due("a straight first corner", stone(yard, 0, 0, 5, 0, 10, 0, 10, 10, 0, 10, 0, 0), 2);
-        due("a straight last corner", stone(yard, 0, 0, 10, 0, 10, 10, 0, 10, 0, 0, 5, 0), 3);
-        due("a corner inward", stone(yard, 0, 0, 0, 0, 10, 0, 10, 10, 9, 1), 4);
-        due("a needle", stone(yard, 0, 0, -100, -100, 100, 99, 100, 100), 5);
+        shape("a triangle", true, TRIANGLE);
+        shape("a straight corner", true, 0, 0, 5, 0, 10, 0, 10, 10, 0, 10);
+        shape("two straight corners", true, 0, 0, 3, 0, 6, 0, 10, 0, 10, 10, 0, 10);
+        shape("a straight corner of a slope", true, 0, 0, 10, 0, 6, 6, 2, 12);
+        shape("a corner inward", true, 0, 0, 10, 0, 10, 10, 9, 1);
+        fromEachCorner("a needle", true, new int[] {-100, -100, 100, 99, 100, 100});
     }
 
     private static void facesOfNoLength() {
-        ArchYard yard = yard();
-        due("the first", stone(yard, 0, 0, 0, 0, 0, 0, 10, 0, 0, 10), -4);
-        due("one within", stone(yard, 0, 0, 0, 0, 10, 0, 10, 0, 0, 10), -4);
-        due("the last", stone(yard, 0, 0, 0, 0, 10, 0, 0, 10, 0, 0), -4);
-        due("of a triangle", stone(yard, 0, 0, 0, 0, 10, 0, 10, 0), -4);
-        due("all", stone(yard, 0, 0, new int[6]), -4);
+        shape("of four", false, 0, 0, 0, 0, 10, 0, 0, 10);
+        shape("of three", false, 0, 0, 10, 0, 10, 0);
+        shape("two in a row", false, 0, 0, 10, 0, 10, 0, 10, 0, 0, 10);
+        shape("all", false, new int[6]);
     }
 
-    private static void withTheClock() {
-        ArchYard yard = yard();
-        due("a square", stone(yard, 0, 0, 0, 0, 0, 10, 10, 10, 10, 0), -4);
-        due("a triangle", stone(yard, 0, 0, 0, 0, 0, 1, 1, 0), -4);
-        due("an L", stone(yard, 0, 0, 0, 0, 0, 10, 5, 10, 5, 5, 10, 5, 10, 0), -4);
-        due("three on one line", stone(yard, 0, 0, 0, 0, 5, 0, 10, 0), -4);
-        due("an L against it", stone(yard, 0, 0, 0, 0, 10, 0, 10, 5, 5, 5, 5, 10, 0, 10), 0);
+    private static void againstTheClock() {
+        shape("a square", true, SQUARE);
+        shape("an L", true, 0, 0, 10, 0, 10, 5, 5, 5, 5, 10, 0, 10);
+        shape("a round one", true, ROUND);
+        shape("a U", true, 0, 0, 9, 0, 9, 9, 6, 9, 6, 3, 3, 3, 3, 9, 0, 9);
     }
 
     private static ArchYard fullYard() {
@@ -333,8 +370,10 @@ public final class EdgeStonesTest extends Bench {
 
     private static void cornersInOrder() {
         ArchYard yard = yard();
-        stone(yard, 0, 0, ROUND);
-        for (int i = 0; i < 24; i++) due("what " + (9 + i), yard.told(0, 9 + i), ROUND[i]);
+        int[] moved = ROUND.clone();
+        for (int i = 0; i < 24; i++) moved[i] += i % 2 == 0 ? 50 : -70;
+        stone(yard, 0, 0, moved);
+        for (int i = 0; i < 24; i++) due("what " + (9 + i), yard.told(0, 9 + i), moved[i]);
     }
 
     public static void main(String[] args) {
@@ -346,11 +385,12 @@ public final class EdgeStonesTest extends Bench {
         sentence("-3, of 16 bits the lowest ones", EdgeStonesTest::farNumbersOf16Bits);
         sentence("-4 two of its FACES have a point in common: they cross", EdgeStonesTest::facesCross);
         sentence("-4 two of its FACES have a point in common: they touch", EdgeStonesTest::facesTouch);
+        sentence("-4 two of its FACES have a point in common: or none", EdgeStonesTest::facesThatNearlyTouch);
         sentence("-4 two of its FACES have a point in common: they lie on each other", EdgeStonesTest::facesUponEachOther);
         sentence("-4 neighbours have more than their CORNER", EdgeStonesTest::neighboursShareMore);
         sentence("but neighbours their CORNER", EdgeStonesTest::neighboursShareTheirCorner);
         sentence("-4 or a FACE has no length", EdgeStonesTest::facesOfNoLength);
-        sentence("-4 or the CORNERS don't go round against the clock", EdgeStonesTest::withTheClock);
+        sentence("-4 or the CORNERS don't go round against the clock", EdgeStonesTest::againstTheClock);
         sentence("-5 there are 120 STONES", EdgeStonesTest::hundredAndTwenty);
         sentence("for the first of these that is", EdgeStonesTest::theFirstReason);
         sentence("for the first of these that is, with 120 STONES", EdgeStonesTest::otherReasonsBefore120);

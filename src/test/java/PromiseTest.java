@@ -105,8 +105,9 @@ public final class PromiseTest extends Bench {
         argument("a hollow of -1", () -> stone(yard, 4, -1, SQUARE));
         index("row 40, and no such kind", () -> yard.stone(9, 0, 40, 0));
         index("rack 2", () -> yard.stone(0, 2, 0, 0));
-        for (int s = 4; s < 120; s++) due("stone", stone(yard, 0, 0, SQUARE), s);
-        due("stone 121", stone(yard, 0, 0, SQUARE), -5);
+        due("a square", stone(yard, 0, 0, SQUARE), 4);
+        for (int s = 5; s < 120; s++) due("stone", yard.stone(0, 1, 0, 0), s);
+        due("stone 121", yard.stone(0, 1, 0, 0), -5);
         due("stone 121, unsound", stone(yard, 0, 0, new int[6]), -4);
         due("stones", yard.count(1), 120);
     }

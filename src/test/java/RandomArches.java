@@ -14,7 +14,7 @@ public final class RandomArches {
 
     /** Builds an arch of n places; its number is that of the arches before it. */
     public void build(int arch, int n) {
-        int style = random.nextInt(5);
+        int style = random.nextInt(6);
         int thinness = random.nextInt(20);
         inner = new int[n + 1][2];
         outer = new int[n + 1][2];
@@ -24,6 +24,7 @@ public final class RandomArches {
             if (style == 2) rubbleJoint(k, n);
             if (style == 3) ringJoint(k, n, 40 + random.nextInt(30), 72 + random.nextInt(28));
             if (style == 4) ringJoint(k, n, 70 + thinness, 95);
+            if (style == 5) tallJoint(k, n);
         }
         twins.ask("arch", n);
         if (random.nextInt(3) == 0) twins.ask("slope", arch, random.nextInt(21), 1 + random.nextInt(20));
@@ -51,6 +52,15 @@ public final class RandomArches {
         int x = -90 + step * k + random.nextInt(Math.max(1, step / 2));
         inner[k] = new int[] {x, random.nextInt(60) - 50};
         outer[k] = new int[] {x + random.nextInt(step) - step / 2, inner[k][1] + 5 + random.nextInt(40)};
+    }
+
+    /** As far out as stones may be, so that weights and moments are as great as they get. */
+    private void tallJoint(int k, int n) {
+        int x = -100 + 200 * k / n;
+        inner[k] = new int[] {x, -100 + random.nextInt(random.nextBoolean() ? 4 : 150)};
+        int height = 1 + random.nextInt(100 - inner[k][1]);
+        int lean = random.nextInt(3) == 0 ? random.nextInt(9) - 4 : 0;
+        outer[k] = new int[] {Math.max(-100, Math.min(100, x + lean)), inner[k][1] + height};
     }
 
     private int kindFor(int p, int n) {
