@@ -6,7 +6,7 @@ import java.util.Arrays;
 import java.util.Set;
 import java.util.TreeSet;
 
-/** The face is the document's: no member more, none less. */
+/** The face is the document's, no member more, none less; the classes inside are as LANGUAGE.md has them. */
 public final class FaceTest {
     private static final String[] FACE = {
         "int rack(int)", "void row(int,int,int)", "int put(int,int,int,int)", "int tear(int,int,int)",
@@ -43,7 +43,28 @@ public final class FaceTest {
         Constructor<?>[] constructors = ArchYard.class.getDeclaredConstructors();
         wrong |= constructors.length != 1 || !Modifier.isPublic(constructors[0].getModifiers());
         wrong |= ArchYard.NONE != -1 || !Modifier.isFinal(ArchYard.class.getModifiers());
+        for (Class<?> inside : ArchYard.class.getDeclaredClasses()) {
+            wrong |= isAmiss(inside);
+        }
         System.exit(wrong ? 1 : 0);
+    }
+
+    /** Rules 1, 2, 5 and 11, as far as a class that is compiled can show them. */
+    private static boolean isAmiss(Class<?> inside) {
+        int modifiers = inside.getModifiers();
+        boolean wrong = !Modifier.isStatic(modifiers) || Modifier.isPublic(modifiers) || Modifier.isProtected(modifiers);
+        for (Method method : inside.getDeclaredMethods()) {
+            boolean bearsName = Arrays.stream(FACE).anyMatch(face -> face.contains(" " + method.getName() + "("));
+            wrong |= bearsName || method.getParameterCount() > 7;
+        }
+        long fields = 0;
+        for (Field field : inside.getDeclaredFields()) {
+            wrong |= Modifier.isStatic(field.getModifiers()) && !Modifier.isFinal(field.getModifiers());
+            fields += Modifier.isStatic(field.getModifiers()) ? 0 : 1;
+        }
+        wrong |= fields > 20;
+        if (wrong) System.out.println("not as LANGUAGE.md has it: " + inside);
+        return wrong;
     }
 
     private static String signature(Method method) {

@@ -10,6 +10,7 @@ public final class LanguageTest {
         "\\bfinally\\b", "\\bsynchronized\\b", "\\bassert\\b", "\\bdouble\\b", "\\bSystem\\b", "\\bException\\b", "Exact\\b",
         "\\bprotected\\b", "\\bnative\\b", "\\bvolatile\\b", "\\bThread\\b", "while \\(true\\)", "for \\(;;\\)",
         "hashCode", "\\.equals\\(", "getMessage", "static \\{", "[^\\x00-\\x7F]"};
+    private static final String THROWN = "throw new (IndexOutOfBounds|IllegalArgument|IllegalState)Exception\\(\"[^\"]*\"\\);";
     private static int wrong = 0;
 
     private static void report(String text) {
@@ -23,6 +24,10 @@ public final class LanguageTest {
         for (String pattern : RULED_OUT) {
             Matcher matcher = Pattern.compile(pattern).matcher(code);
             if (matcher.find()) report("ruled out: " + matcher.group());
+        }
+        Matcher thrown = Pattern.compile("\\bthrow\\b[^;]*;").matcher(code);
+        while (thrown.find()) {
+            if (!thrown.group().matches(THROWN)) report("not thrown so: " + thrown.group());
         }
         int classes = 0;
         Matcher kinds = Pattern.compile("\\b(class|interface|enum|record) \\w").matcher(code);
